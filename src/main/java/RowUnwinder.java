@@ -664,15 +664,11 @@ public final class RowUnwinder {
         }
 
         int padPart(int function, int pad, int what) {
-            return pads[slot(function, pad) * PAD_LETTERS + what];
+            return pads[(function * PADS + pad) * PAD_LETTERS + what];
         }
 
         void writePadPart(int function, int pad, int what, int value) {
-            pads[slot(function, pad) * PAD_LETTERS + what] = value;
-        }
-
-        boolean isPadFor(int function, int pad, int address) {
-            return padPart(function, pad, PAD_FROM) <= address && address <= padPart(function, pad, PAD_TO);
+            pads[(function * PADS + pad) * PAD_LETTERS + what] = value;
         }
 
         int saveCount(int function) {
@@ -958,7 +954,8 @@ public final class RowUnwinder {
 
         private int deedAt(int level, int pad, int type) {
             int function = functions[level];
-            if (!code.isPadFor(function, pad, addresses[level])) {
+            int address = addresses[level];
+            if (address < code.padPart(function, pad, PAD_FROM) || address > code.padPart(function, pad, PAD_TO)) {
                 return IDLE;
             }
             return deedOf(kinds[slot(function, pad)], code.padPart(function, pad, PAD_TYPE), type);
@@ -976,8 +973,12 @@ public final class RowUnwinder {
         }
 
         void unwindTo(int catcher, int type) {
+            int far = catcher / PADS;
+            if (catcher < 0 || far >= frames) {
+                return;
+            }
             finishers = 0;
-            for (int gone = 0; gone < catcher / PADS && frames > 1; gone++) {
+            for (int gone = 0; gone < far; gone++) {
                 finishAtLatest(code.padCount(functions[frames - 1]), type);
                 leave();
             }

@@ -140,6 +140,9 @@ public final class CodeTest {
         x = Due.read(";/+9s30;/+9s31;");
         same(x, 0, 1, 0);
         same(x, 1, 2, 0);
+        x = Due.read("s00+1u0;/;/+1;");
+        same(x, 0, 1, 0);
+        same(x, 1, 2, 1);
         x = Due.read("s00;/s10;/s00;");
         same(x, 0, 1, 0);
         same(x, 0, 2, 1);

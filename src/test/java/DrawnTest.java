@@ -29,7 +29,7 @@ public final class DrawnTest {
     }
 
     private static void testRuns() {
-        String[] texts = {";a0900/s00+1s01;f0900c2325/s11+3u1;g0915u5902", ";a0905", "s00;c0900c0910g0925/;f0900", ";"};
+        String[] texts = {";a0900/s00+1s01;f0900c2325/s11+3u1;g0915u5902", ";a0905", "s00;c0900c0910g0925/;f0900", ";a9907", ";"};
         int[] seeds = {0, 1, 7, 1021, 65536, 123456789, MAX - 1, MAX};
         int[] times = {1, 2, 3, 10, 50, 98, 99};
         for (String text : texts) {

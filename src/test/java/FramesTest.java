@@ -112,6 +112,13 @@ public final class FramesTest {
         x.back();
         x.call(0);
         cells(x, 0, 11, 0, 0, 0, 0, 20);
+        x = Due.read("s00s01s02s03s04s05;/;");
+        x.set(0, 9);
+        x.call(0);
+        cells(x, 0, 9, 9, 9, 9, 9, 9);
+        x.back();
+        x.call(1);
+        cells(x, 0, 0, 0, 0, 0, 0, 0);
     }
 
     private static void testBack() {
@@ -163,12 +170,25 @@ public final class FramesTest {
             }
         }
         Due.is("REGISTER 0 is as it was", x.register(0), 4);
+        testCallerOfOneThatSaves();
         for (int frame = 0; frame < 3; frame++) {
             x.back();
             for (int register = 0; register < 4; register++) {
                 Due.is("REGISTER " + register + " behind BACK", x.register(register), due[frame][register]);
             }
         }
+    }
+
+    private static void testCallerOfOneThatSaves() {
+        RowUnwinder x = Due.read("s21;");
+        x.set(2, 5);
+        x.call(0);
+        x.set(2, 6);
+        Due.is("CALLER of the latest FRAME", x.frame(0, 10), 5);
+        x.call(0);
+        x.set(2, 7);
+        Due.is("CALLER of the latest FRAME", x.frame(0, 10), 6);
+        Due.is("CALLER of the first FRAME", x.frame(1, 10), 5);
     }
 
     private static void testFrameRefusals() {

@@ -11,6 +11,7 @@ public final class ThrowTest {
         testNobody();
         testLandingDoesNoOps();
         testMostFinishers();
+        testMorePadsAbove();
         testChange();
         testRefusals();
         Due.end("ThrowTest");
@@ -188,6 +189,17 @@ public final class ThrowTest {
         due[21] = 10;
         due[22] = 11;
         finished(x, due);
+    }
+
+    private static void testMorePadsAbove() {
+        RowUnwinder x = Due.read(";a0900/;f0900f0910g0920/;");
+        x.call(0);
+        x.call(2);
+        x.call(1);
+        x.call(2);
+        search(x, 3, 3, 0, 3);
+        Due.is("raise(3)", x.raise(3), 3);
+        finished(x, 10, 11, 12);
     }
 
     private static void testChange() {

@@ -140,8 +140,9 @@ public final class UndoTest {
         x.call(1);
         x.raise(2);
         x.change(0, 0, 3);
-        x.see(0, 0, 1, 1);
-        x.see(1, 0, 0, 2);
+        x.see(1, 0, 4, 1);
+        x.see(0, 0, 0, 1);
+        x.see(0, 0, 1, 0);
         long kept = x.digest();
         Due.is("image()", x.image(), 1);
         Due.is("digest() behind image()", x.digest(), kept);
@@ -151,7 +152,8 @@ public final class UndoTest {
         x.set(2, 8);
         x.call(1);
         x.forget();
-        x.see(0, 0, 4, 2);
+        x.see(0, 0, 1, 2);
+        x.see(1, 0, 4, 2);
         Due.is("restore()", x.restore(), 1);
         Due.is("digest() behind restore()", x.digest(), kept);
         for (int many = 1; many < 40; many++) {

@@ -15,14 +15,14 @@ public final class CodeTest {
     }
 
     /** What row() tells for 0 to 5. */
-    private static void row(RowUnwinder x, int function, int address, int... due) {
+    private static void row(Used x, int function, int address, int... due) {
         for (int what = 0; what < 6; what++) {
             Due.is("row(" + function + ", " + address + ", " + what + ")", x.row(function, address, what), due[what]);
         }
     }
 
     private static void testRows() {
-        RowUnwinder x = Due.read("s02+3s15m+2b+4s30;/;/+1+1u2;");
+        Used x = Due.read("s02+3s15m+2b+4s30;/;/+1+1u2;");
         row(x, 0, 0, 2, N, N, N, 0, 0);
         row(x, 0, 2, 2, N, N, N, 0, 0);
         row(x, 0, 3, 2, 5, N, N, 1, 3);
@@ -37,7 +37,7 @@ public final class CodeTest {
     }
 
     private static void testRowsAreReplacedAndRemembered() {
-        RowUnwinder x = Due.read("s00m+1s01m+1s02m;/mm+1s05m+1bb;/s00s10s01+9;");
+        Used x = Due.read("s00m+1s01m+1s02m;/mm+1s05m+1bb;/s00s10s01+9;");
         row(x, 0, 0, 0, N, N, N, 1, 0);
         row(x, 0, 1, 1, N, N, N, 2, 1);
         row(x, 0, 2, 2, N, N, N, 3, 2);
@@ -56,7 +56,7 @@ public final class CodeTest {
     }
 
     private static void testRowRefusals() {
-        RowUnwinder x = Due.read(";/;");
+        Used x = Due.read(";/;");
         long ahead = x.digest();
         int[][] unknown = {{-1, 0, 0}, {2, 0, 0}, {3, 0, 0}, {0, -1, 0}, {0, 10, 0}, {2, 0, 6}, {0, 10, -1},
             {Integer.MIN_VALUE, 0, 0}, {Integer.MAX_VALUE, 0, 0}, {0, Integer.MIN_VALUE, 0}, {0, Integer.MAX_VALUE, 0}};
@@ -70,7 +70,7 @@ public final class CodeTest {
     }
 
     private static void testPad() {
-        RowUnwinder x = Due.read(";c0123a4537/;/;f9948u0040g2318");
+        Used x = Due.read(";c0123a4537/;/;f9948u0040g2318");
         int[][] due = {{0, 0, 0, 0, 1, 2, 3}, {0, 1, 1, 4, 5, 3, 7}, {2, 0, 2, 9, 9, 4, 8}, {2, 1, 3, 0, 0, 4, 0}, {2, 2, 4, 2, 3, 1, 8}};
         for (int[] one : due) {
             for (int what = 0; what < 5; what++) {
@@ -86,12 +86,12 @@ public final class CodeTest {
     }
 
     private static void testPadRefusals() {
-        RowUnwinder x = Due.read(";c0000/;/;a0900f0900");
-        long ahead = x.digest();
         int[][] unknown = {{-1, 0}, {3, 0}, {0, 1}, {0, -1}, {1, 0}, {2, 2}, {2, 3}, {Integer.MAX_VALUE, 0}, {Integer.MIN_VALUE, 0},
             {0, Integer.MAX_VALUE}, {0, Integer.MIN_VALUE}};
         int[] whats = {0, 6, 7, -1, Integer.MIN_VALUE, Integer.MAX_VALUE};
         for (int[] one : unknown) {
+            Used x = Due.read(";c0000/;/;a0900f0900");
+            long ahead = x.digest();
             for (int what : whats) {
                 Due.refused("pad", x, ahead, x.pad(one[0], one[1], what), RowUnwinder.UNKNOWN);
                 Due.refused("as", x, ahead, x.as(one[0], one[1], what), RowUnwinder.UNKNOWN);
@@ -99,6 +99,8 @@ public final class CodeTest {
                 Due.refused("see", x, ahead, x.see(one[0], one[1], what, what), RowUnwinder.UNKNOWN);
             }
         }
+        Used x = Due.read(";c0000/;/;a0900f0900");
+        long ahead = x.digest();
         int[] outside = {-1, 7, 8, Integer.MIN_VALUE, Integer.MAX_VALUE};
         for (int what : outside) {
             Due.refused("pad", x, ahead, x.pad(2, 1, what), RowUnwinder.OUTSIDE);
@@ -110,7 +112,7 @@ public final class CodeTest {
     }
 
     private static void testAs() {
-        RowUnwinder x = Due.read(";f0900c0900a0900");
+        Used x = Due.read(";f0900c0900a0900");
         // A row a KIND that the PAD is, a column a KIND that it is taken as.
         boolean[][] is = {{true, false, false, false, false}, {true, true, false, false, false}, {true, false, true, false, false},
             {true, false, false, true, false}, {true, false, true, false, true}};
@@ -124,14 +126,14 @@ public final class CodeTest {
         }
     }
 
-    private static void same(RowUnwinder x, int one, int other, int due) {
+    private static void same(Used x, int one, int other, int due) {
         Due.is("same(" + one + ", " + other + ")", x.same(one, other), due);
         Due.is("same(" + other + ", " + one + ")", x.same(other, one), due);
     }
 
     private static void testSame() {
         // What is REMEMBERED, PADS and where an OP stands make no difference; where what is SAVED, does.
-        RowUnwinder x = Due.read("s01+2u0;/s01mu1+1m+1u0u0;c0000/s01+3u0;");
+        Used x = Due.read("s01+2u0;/s01mu1+1m+1u0u0;c0000/s01+3u0;");
         same(x, 0, 0, 1);
         same(x, 2, 2, 1);
         same(x, 0, 1, 1);
@@ -162,7 +164,7 @@ public final class CodeTest {
         int[] saving = {0, 10, 1, 13, 0};
         int[] pads = {0, 0, 0, 1, 5};
         for (int number = 0; number < texts.length; number++) {
-            RowUnwinder x = Due.read(texts[number]);
+            Used x = Due.read(texts[number]);
             Due.is("count(4) of " + texts[number], x.count(4), saving[number]);
             Due.is("count(1) of " + texts[number], x.count(1), pads[number]);
         }

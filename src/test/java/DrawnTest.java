@@ -17,7 +17,7 @@ public final class DrawnTest {
     }
 
     private static void testSeeds() {
-        RowUnwinder x = Due.read(";");
+        Used x = Due.read(";");
         // The seeds 0, 5 and the greatest one, by hand: a DRAW of 4, then what it asks for.
         Due.is("drawn(1, 0, 2): a DRAW of 0, then one of one FUNCTION", x.drawn(1, 0, 2), (1103515245L * 12345L + 12345L) % 2147483648L);
         Due.is("drawn(1, 0, 1)", x.drawn(1, 0, 1), 1);
@@ -44,7 +44,7 @@ public final class DrawnTest {
     }
 
     private static void compare(String text, int start, int times, int calls) {
-        RowUnwinder x = Due.read(text);
+        Used x = Due.read(text);
         for (int call = 0; call < calls; call++) {
             x.call(call % x.count(0));
             x.go(1 + call % 9);
@@ -65,7 +65,7 @@ public final class DrawnTest {
         Due.is("drawn(" + times + ", " + start + ", 2) of " + text, end, seed);
     }
 
-    private static int doOne(RowUnwinder x) {
+    private static int doOne(Used x) {
         int draw = draw(4);
         if (draw == 0) {
             x.call(draw(x.count(0)));
@@ -81,7 +81,7 @@ public final class DrawnTest {
     }
 
     private static void testRefusals() {
-        RowUnwinder x = Due.read(";");
+        Used x = Due.read(";");
         long ahead = x.digest();
         int[] times = {0, -1, 100, MIN, MAX};
         for (int many : times) {
@@ -95,7 +95,7 @@ public final class DrawnTest {
         for (int what : whats) {
             Due.refused("drawn", x, ahead, x.drawn(1, 0, what), RowUnwinder.OUTSIDE);
         }
-        RowUnwinder none = new RowUnwinder();
+        Used none = new Used();
         Due.is("drawn without a TEXT, outside", none.drawn(0, 0, 0), RowUnwinder.OUTSIDE);
         Due.is("drawn without a TEXT, outside", none.drawn(1, -1, 0), RowUnwinder.OUTSIDE);
         Due.is("drawn without a TEXT, outside", none.drawn(1, 0, 3), RowUnwinder.OUTSIDE);

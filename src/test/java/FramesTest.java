@@ -14,7 +14,7 @@ public final class FramesTest {
     }
 
     private static void testSetAndRegister() {
-        RowUnwinder x = Due.read(";");
+        Used x = Due.read(";");
         for (int register = 0; register < 4; register++) {
             Due.is("set()", x.set(register, 999 - register), 0);
             Due.is("set() again", x.set(register, register), 999 - register);
@@ -32,14 +32,14 @@ public final class FramesTest {
         for (int value : outside) {
             Due.refused("set", x, ahead, x.set(0, value), RowUnwinder.OUTSIDE);
         }
-        RowUnwinder none = new RowUnwinder();
+        Used none = new Used();
         Due.is("set() without a TEXT, unknown", none.set(4, 0), RowUnwinder.UNKNOWN);
         Due.is("set() without a TEXT, outside", none.set(0, 1000), RowUnwinder.OUTSIDE);
         Due.is("set() without a TEXT", none.set(0, 0), RowUnwinder.STATE);
     }
 
     private static void testCall() {
-        RowUnwinder x = Due.read(";/;");
+        Used x = Due.read(";/;");
         long ahead = x.digest();
         int[] unknown = {-1, 2, 3, MIN, MAX};
         for (int function : unknown) {
@@ -61,7 +61,7 @@ public final class FramesTest {
     }
 
     private static void testGo() {
-        RowUnwinder x = Due.read(";");
+        Used x = Due.read(";");
         long ahead = x.digest();
         int[] outside = {0, -1, 10, MIN, MAX};
         for (int by : outside) {
@@ -82,14 +82,14 @@ public final class FramesTest {
         Due.is("the other FRAME", x.frame(1, 1), 9);
     }
 
-    private static void cells(RowUnwinder x, int frame, int... due) {
+    private static void cells(Used x, int frame, int... due) {
         for (int cell = 0; cell < 6; cell++) {
             Due.is("CELL " + cell + " of FRAME " + frame, x.frame(frame, 2 + cell), due[cell]);
         }
     }
 
     private static void testCells() {
-        RowUnwinder x = Due.read("s00s15+2s02+1s22s30;/s00s10u1s04;");
+        Used x = Due.read("s00s15+2s02+1s22s30;/s00s10u1s04;");
         x.set(0, 10);
         x.set(1, 20);
         x.call(0);
@@ -122,7 +122,7 @@ public final class FramesTest {
     }
 
     private static void testBack() {
-        RowUnwinder x = Due.read("s00s10+1u0+1s01+1u1;/s21;");
+        Used x = Due.read("s00s10+1u0+1s01+1u1;/s21;");
         long ahead = x.digest();
         Due.refused("back", x, ahead, x.back(), RowUnwinder.STATE);
         // Behind BACK from ADDRESS 0 to 3: REGISTERS 0 and 1 are what the CELL is in which they are SAVED there, if they are.
@@ -152,7 +152,7 @@ public final class FramesTest {
     }
 
     private static void testCaller() {
-        RowUnwinder x = Due.read("s00;/s01s10;/u0;");
+        Used x = Due.read("s00;/s01s10;/u0;");
         x.set(0, 1);
         x.set(1, 5);
         x.call(0);
@@ -180,7 +180,7 @@ public final class FramesTest {
     }
 
     private static void testCallerOfOneThatSaves() {
-        RowUnwinder x = Due.read("s21;");
+        Used x = Due.read("s21;");
         x.set(2, 5);
         x.call(0);
         x.set(2, 6);
@@ -192,7 +192,7 @@ public final class FramesTest {
     }
 
     private static void testFrameRefusals() {
-        RowUnwinder x = Due.read(";");
+        Used x = Due.read(";");
         long ahead = x.digest();
         Due.refused("frame", x, ahead, x.frame(0, 0), RowUnwinder.UNKNOWN);
         x.call(0);

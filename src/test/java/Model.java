@@ -7,7 +7,7 @@ import java.util.regex.Pattern;
  * The document done in the plainest way, for comparison: pages are matched by patterns, rows are replayed from the
  * text each time, and what is done is a list of steps that is done again from the start when one is taken back.
  */
-final class Model {
+final class Model implements Face {
     private static final String KIND_LETTERS = "cafug";
     private static final Pattern SHAPE = Pattern.compile(shape());
 
@@ -236,7 +236,8 @@ final class Model {
         now.step(step);
     }
 
-    int letter(int code) {
+    @Override
+    public int letter(int code) {
         if (not(code, 1, 126)) {
             return RowUnwinder.OUTSIDE;
         }
@@ -246,13 +247,15 @@ final class Model {
         return page.append((char) code).length();
     }
 
-    int blank() {
+    @Override
+    public int blank() {
         int had = page.length();
         page.setLength(0);
         return had;
     }
 
-    int fault() {
+    @Override
+    public int fault() {
         for (int many = 1; many <= page.length(); many++) {
             if (!mayBegin(page.substring(0, many))) {
                 return many - 1;
@@ -261,7 +264,8 @@ final class Model {
         return page.length();
     }
 
-    int text() {
+    @Override
+    public int text() {
         if (fault() < page.length() || !SHAPE.matcher(page).matches()) {
             return RowUnwinder.STATE;
         }
@@ -276,14 +280,16 @@ final class Model {
         return functions.length;
     }
 
-    int row(int function, int address, int what) {
+    @Override
+    public int row(int function, int address, int what) {
         if (noFunction(function) || not(address, 0, 9)) {
             return RowUnwinder.UNKNOWN;
         }
         return not(what, 0, 5) ? RowUnwinder.OUTSIDE : rows(function, address)[what];
     }
 
-    int pad(int function, int pad, int what) {
+    @Override
+    public int pad(int function, int pad, int what) {
         if (noPad(function, pad)) {
             return RowUnwinder.UNKNOWN;
         }
@@ -330,7 +336,8 @@ final class Model {
         return best;
     }
 
-    int as(int function, int pad, int kind) {
+    @Override
+    public int as(int function, int pad, int kind) {
         if (noPad(function, pad)) {
             return RowUnwinder.UNKNOWN;
         }
@@ -341,7 +348,8 @@ final class Model {
         return is[now.kinds[function][pad]].indexOf('0' + kind) >= 0 ? pad : RowUnwinder.NONE;
     }
 
-    int frame(int frame, int what) {
+    @Override
+    public int frame(int frame, int what) {
         if (not(frame, 0, now.frames.size() - 1)) {
             return RowUnwinder.UNKNOWN;
         }
@@ -360,11 +368,13 @@ final class Model {
         return value;
     }
 
-    int register(int register) {
+    @Override
+    public int register(int register) {
         return not(register, 0, 3) ? RowUnwinder.UNKNOWN : now.registers[register];
     }
 
-    int call(int function) {
+    @Override
+    public int call(int function) {
         if (noFunction(function)) {
             return RowUnwinder.UNKNOWN;
         }
@@ -375,7 +385,8 @@ final class Model {
         return now.frames.size();
     }
 
-    int go(int by) {
+    @Override
+    public int go(int by) {
         if (not(by, 1, 9)) {
             return RowUnwinder.OUTSIDE;
         }
@@ -386,7 +397,8 @@ final class Model {
         return now.frames.get(0)[1];
     }
 
-    int set(int register, int value) {
+    @Override
+    public int set(int register, int value) {
         if (not(register, 0, 3)) {
             return RowUnwinder.UNKNOWN;
         }
@@ -401,7 +413,8 @@ final class Model {
         return was;
     }
 
-    int back() {
+    @Override
+    public int back() {
         if (now.frames.isEmpty()) {
             return RowUnwinder.STATE;
         }
@@ -409,7 +422,8 @@ final class Model {
         return now.frames.size();
     }
 
-    int raise(int type) {
+    @Override
+    public int raise(int type) {
         int found = search(type, 0);
         if (found >= 0) {
             take('r', type);
@@ -417,7 +431,8 @@ final class Model {
         return found;
     }
 
-    int change(int function, int pad, int kind) {
+    @Override
+    public int change(int function, int pad, int kind) {
         if (noPad(function, pad)) {
             return RowUnwinder.UNKNOWN;
         }
@@ -429,7 +444,8 @@ final class Model {
         return was;
     }
 
-    int undo() {
+    @Override
+    public int undo() {
         if (undoable == 0) {
             return RowUnwinder.STATE;
         }
@@ -438,7 +454,8 @@ final class Model {
         return --undoable;
     }
 
-    int search(int type, int what) {
+    @Override
+    public int search(int type, int what) {
         if (not(type, 0, 4) || not(what, 0, 2)) {
             return RowUnwinder.OUTSIDE;
         }
@@ -458,7 +475,8 @@ final class Model {
         return many;
     }
 
-    int loose() {
+    @Override
+    public int loose() {
         if (functions.length == 0) {
             return RowUnwinder.STATE;
         }
@@ -469,14 +487,16 @@ final class Model {
         return bits;
     }
 
-    int finished(int number) {
+    @Override
+    public int finished(int number) {
         if (number == RowUnwinder.NONE) {
             return now.finished.size();
         }
         return not(number, 0, now.finished.size() - 1) ? RowUnwinder.UNKNOWN : now.finished.get(number);
     }
 
-    int same(int one, int other) {
+    @Override
+    public int same(int one, int other) {
         if (noFunction(one) || noFunction(other)) {
             return RowUnwinder.UNKNOWN;
         }
@@ -490,7 +510,8 @@ final class Model {
         return 1;
     }
 
-    int see(int function, int pad, int type, int did) {
+    @Override
+    public int see(int function, int pad, int type, int did) {
         if (noPad(function, pad)) {
             return RowUnwinder.UNKNOWN;
         }
@@ -504,13 +525,15 @@ final class Model {
         return seen.size();
     }
 
-    int forget() {
+    @Override
+    public int forget() {
         int had = seen.size();
         seen = new ArrayList<>();
         return had;
     }
 
-    int drawn(int times, int seed, int what) {
+    @Override
+    public int drawn(int times, int seed, int what) {
         if (not(times, 1, 99) || seed < 0 || not(what, 0, 2)) {
             return RowUnwinder.OUTSIDE;
         }
@@ -556,7 +579,8 @@ final class Model {
         return (int) ((seed[0] >>> 16) % bound);
     }
 
-    int image() {
+    @Override
+    public int image() {
         if (functions.length == 0) {
             return RowUnwinder.STATE;
         }
@@ -566,7 +590,8 @@ final class Model {
         return now.frames.size();
     }
 
-    int restore() {
+    @Override
+    public int restore() {
         if (keptDone == null) {
             return RowUnwinder.STATE;
         }
@@ -577,7 +602,8 @@ final class Model {
         return now.frames.size();
     }
 
-    int count(int what) {
+    @Override
+    public int count(int what) {
         int pads = 0;
         int saving = 0;
         for (int function = 0; function < functions.length; function++) {
@@ -591,7 +617,8 @@ final class Model {
         return not(what, 0, 7) ? RowUnwinder.OUTSIDE : told[what];
     }
 
-    long digest() {
+    @Override
+    public long digest() {
         List<Integer> numbers = new ArrayList<>();
         for (int function = 0; function < functions.length; function++) {
             for (int number = 0; number < 60; number++) {

@@ -1,22 +1,27 @@
+import java.util.function.ToLongFunction;
+
 /** All promises: random runs of 512 calls, each compared with what the plain Model of the document answers. */
 public final class ModelTest {
-    private static final int RUNS = 400, CALLS = 512;
+    private static final int RUNS = 400;
     private static final int[] ODD = {-1, -2, 4, 5, 6, 7, 8, 9, 10, 11, 12, 99, 100, 127, 999, 1000,
         Integer.MIN_VALUE, Integer.MAX_VALUE};
 
     private static long seed = 20261119;
+    private static int caught = 0;
 
-    private RowUnwinder x = new RowUnwinder();
-    private Model model = new Model();
-    private int calls = 0;
-    private String run = "";
+    private final Used x = new Used();
+    private final Model model = new Model();
+    private final String run;
+
+    private ModelTest(String run) {
+        this.run = run;
+    }
 
     public static void main(String[] args) {
-        int[] caught = {0};
         for (int run = 0; run < RUNS; run++) {
-            new ModelTest().compare(run, caught);
+            new ModelTest("run " + run).compare();
         }
-        Due.is("enough was caught for the runs to tell something", caught[0] > 5000 ? 1 : 0, 1);
+        Due.is("enough was caught for the runs to tell something", caught > 5000 ? 1 : 0, 1);
         Due.end("ModelTest");
     }
 
@@ -30,28 +35,39 @@ public final class ModelTest {
         return below(12) == 0 ? ODD[below(ODD.length)] : below(bound);
     }
 
-    private void is(String call, long got, long want) {
-        Due.is(run + ", call " + calls + ": " + call, got, want);
-        calls++;
+    private boolean mayGoOn() {
+        return x.calls() < Used.MOST_CALLS;
     }
 
-    private void compare(int number, int[] caught) {
-        run = "run " + number;
+    /** What both answer; nothing behind the last call that an object is used for. */
+    private long is(String call, ToLongFunction<Face> asked) {
+        if (!mayGoOn()) {
+            return RowUnwinder.NONE;
+        }
+        long due = asked.applyAsLong(model);
+        Due.is(run + ", call " + x.calls() + ": " + call, asked.applyAsLong(x), due);
+        return due;
+    }
+
+    private void compare() {
         boolean withoutText = below(20) == 0;
         if (!withoutText) {
             write(text());
-            is("text()", x.text(), model.text());
+            is("text()", Face::text);
         }
-        while (calls < CALLS - 1) {
-            int raised = calls % 7 == 0 ? some() : often();
-            caught[0] += raised;
+        while (x.calls() < Used.MOST_CALLS - 1) {
+            if (x.calls() % 7 == 0) {
+                some();
+            } else {
+                often();
+            }
         }
-        is("digest()", x.digest(), model.digest());
+        is("digest()", Face::digest);
     }
 
     private void write(String page) {
-        for (int place = 0; place < page.length() && calls < CALLS - 1; place++) {
-            is("letter " + page.charAt(place), x.letter(page.charAt(place)), model.letter(page.charAt(place)));
+        for (char letter : page.toCharArray()) {
+            is("letter " + letter, face -> face.letter(letter));
         }
     }
 
@@ -121,74 +137,69 @@ public final class ModelTest {
                 page.append(letter);
             }
         }
-        is("blank()", x.blank(), model.blank());
+        is("blank()", Face::blank);
         write(page.toString());
-        is("fault() of " + page, x.fault(), model.fault());
+        is("fault() of " + page, Face::fault);
         if (below(4) == 0) {
-            is("text() of " + page, x.text(), model.text());
+            is("text() of " + page, Face::text);
         }
     }
 
-    /** What is done; whether something was caught. */
-    private int often() {
+    private void often() {
         int a = number(3);
         int b = number(3);
         switch (below(12)) {
-            case 0, 1, 2 -> is("call(" + a + ")", x.call(a), model.call(a));
-            case 3, 4 -> is("go(" + a + ")", x.go(a), model.go(a));
+            case 0, 1, 2 -> is("call(" + a + ")", face -> face.call(a));
+            case 3, 4 -> is("go(" + a + ")", face -> face.go(a));
             case 5, 6 -> {
                 int value = number(1000);
-                is("set(" + a + ", " + value + ")", x.set(a, value), model.set(a, value));
+                is("set(" + a + ", " + value + ")", face -> face.set(a, value));
             }
-            case 7 -> is("back()", x.back(), model.back());
+            case 7 -> is("back()", Face::back);
             case 8 -> {
                 int kind = number(5);
-                is("change(" + a + ", " + b + ", " + kind + ")", x.change(a, b, kind), model.change(a, b, kind));
+                is("change(" + a + ", " + b + ", " + kind + ")", face -> face.change(a, b, kind));
             }
-            case 9 -> is("undo()", x.undo(), model.undo());
+            case 9 -> is("undo()", Face::undo);
             default -> {
                 int type = number(5);
-                int due = model.raise(type);
-                is("raise(" + type + ")", x.raise(type), due);
-                return due >= 0 ? 1 : 0;
+                caught += is("raise(" + type + ")", face -> face.raise(type)) >= 0 ? 1 : 0;
             }
         }
-        return 0;
     }
 
-    private int some() {
+    private void some() {
         int a = number(3);
         int b = number(4);
         int c = number(10);
         switch (below(24)) {
-            case 0 -> is("letter(" + c + ")", x.letter(c), model.letter(c));
-            case 1 -> is("blank()", x.blank(), model.blank());
-            case 2 -> is("fault()", x.fault(), model.fault());
+            case 0 -> is("letter(" + c + ")", face -> face.letter(c));
+            case 1 -> is("blank()", Face::blank);
+            case 2 -> is("fault()", Face::fault);
             case 3 -> writeSpoilt();
-            case 4 -> is("row(" + a + ", " + c + ", " + b + ")", x.row(a, c, b), model.row(a, c, b));
-            case 5 -> is("pad(" + a + ", " + b + ", " + c + ")", x.pad(a, b, c), model.pad(a, b, c));
-            case 6 -> is("as(" + a + ", " + b + ", " + c % 5 + ")", x.as(a, b, c % 5), model.as(a, b, c % 5));
-            case 7 -> is("frame(" + b + ", " + c + ")", x.frame(b, c), model.frame(b, c));
-            case 8 -> is("register(" + b + ")", x.register(b), model.register(b));
-            case 9 -> is("search(" + b + ", " + a + ")", x.search(b, a), model.search(b, a));
-            case 10 -> is("loose()", x.loose(), model.loose());
-            case 11 -> is("finished(" + (c - 1) + ")", x.finished(c - 1), model.finished(c - 1));
-            case 12 -> is("same(" + a + ", " + b + ")", x.same(a, b), model.same(a, b));
+            case 4 -> is("row(" + a + ", " + c + ", " + b + ")", face -> face.row(a, c, b));
+            case 5 -> is("pad(" + a + ", " + b + ", " + c + ")", face -> face.pad(a, b, c));
+            case 6 -> is("as(" + a + ", " + b + ", " + c % 5 + ")", face -> face.as(a, b, c % 5));
+            case 7 -> is("frame(" + b + ", " + c + ")", face -> face.frame(b, c));
+            case 8 -> is("register(" + b + ")", face -> face.register(b));
+            case 9 -> is("search(" + b + ", " + a + ")", face -> face.search(b, a));
+            case 10 -> is("loose()", Face::loose);
+            case 11 -> is("finished(" + (c - 1) + ")", face -> face.finished(c - 1));
+            case 12 -> is("same(" + a + ", " + b + ")", face -> face.same(a, b));
             case 13, 14, 15 -> {
                 int did = number(3);
-                is("see(" + a + ", " + b + ", " + c % 5 + ", " + did + ")", x.see(a, b, c % 5, did), model.see(a, b, c % 5, did));
+                is("see(" + a + ", " + b + ", " + c % 5 + ", " + did + ")", face -> face.see(a, b, c % 5, did));
             }
-            case 16 -> is("forget()", x.forget(), model.forget());
+            case 16 -> is("forget()", Face::forget);
             case 17, 18 -> {
                 int times = number(99) + 1;
                 int start = number(Integer.MAX_VALUE);
-                is("drawn(" + times + ", " + start + ", " + b + ")", x.drawn(times, start, b), model.drawn(times, start, b));
+                is("drawn(" + times + ", " + start + ", " + b + ")", face -> face.drawn(times, start, b));
             }
-            case 19 -> is("image()", x.image(), model.image());
-            case 20 -> is("restore()", x.restore(), model.restore());
-            case 21 -> is("count(" + c + ")", x.count(c), model.count(c));
-            default -> is("digest()", x.digest(), model.digest());
+            case 19 -> is("image()", Face::image);
+            case 20 -> is("restore()", Face::restore);
+            case 21 -> is("count(" + c + ")", face -> face.count(c));
+            default -> is("digest()", Face::digest);
         }
-        return 0;
     }
 }

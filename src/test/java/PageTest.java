@@ -12,7 +12,7 @@ public final class PageTest {
     }
 
     private static void testNewObject() {
-        RowUnwinder x = new RowUnwinder();
+        Used x = new Used();
         for (int what = 0; what < 8; what++) {
             Due.is("count of a new object", x.count(what), 0);
         }
@@ -46,7 +46,7 @@ public final class PageTest {
     }
 
     private static void testLetter() {
-        RowUnwinder x = new RowUnwinder();
+        Used x = new Used();
         long ahead = x.digest();
         int[] outside = {0, -1, 127, 128, Integer.MIN_VALUE, Integer.MAX_VALUE};
         for (int code : outside) {
@@ -64,7 +64,7 @@ public final class PageTest {
     }
 
     private static void testBlank() {
-        RowUnwinder x = Due.written("s00");
+        Used x = Due.written("s00");
         Due.is("blank()", x.blank(), 3);
         Due.is("blank() again", x.blank(), 0);
         Due.is("letter behind blank()", x.letter(';'), 1);
@@ -76,7 +76,7 @@ public final class PageTest {
             "+9mbs35;", ";c0000", ";a9949", ";f0909u5540g1200", "mm;/mmm;/mbmb;", ";c0000c0000c0000/;/;g3900",
             "+3m+3u1+3b;/+9s00;", "mbmbmbmb;"};
         for (String text : texts) {
-            RowUnwinder x = Due.written(text);
+            Used x = Due.written(text);
             Due.is("fault() of " + text, x.fault(), text.length());
             Due.is("text() of " + text, x.text(), text.split("/", -1).length);
             Due.is("count(0) of " + text, x.count(0), text.split("/", -1).length);
@@ -85,7 +85,7 @@ public final class PageTest {
         String longest = "s00s11s22s33s00s11s22s33;c0000c0000c0000/s00s11s22s33s00s11s22s33;c0000c0000c0000/s00s11s22s33;c0000";
         Due.is("letters", longest.length(), 100);
         Due.is("text()", Due.read(longest).count(1), 7);
-        RowUnwinder begun = Due.written(longest.replace("s33;c0000c0000c0000/s00s11s22s33;c0000", "s33;c0000c0000c0000/s00s11s22s33m;c000"));
+        Used begun = Due.written(longest.replace("s33;c0000c0000c0000/s00s11s22s33;c0000", "s33;c0000c0000c0000/s00s11s22s33m;c000"));
         Due.is("count(6)", begun.count(6), 100);
         Due.is("fault() of a hundred letters", begun.fault(), 100);
         Due.is("text() of a hundred letters", begun.text(), RowUnwinder.STATE);
@@ -96,7 +96,7 @@ public final class PageTest {
         String[] begun = {"", "+", "+8+1+", "+9+", "s", "s3", "s35", "u", "u3", "m", "mb", "mmm", ";c", ";c0", ";c00", ";c000", ";/",
             ";/;/", "+9", "+1+1+1+1+1+1+1+", "mbmbmbmb", ";c0000/"};
         for (String page : begun) {
-            RowUnwinder x = Due.written(page);
+            Used x = Due.written(page);
             long ahead = x.digest();
             Due.is("fault() of " + page, x.fault(), page.length());
             Due.refused("text() of " + page, x, ahead, x.text(), RowUnwinder.STATE);
@@ -109,7 +109,7 @@ public final class PageTest {
             "m;/|b", ";|\u0001", "|\u0001", "+1+1+1+1+1+1+1+1|+", "s0|s", "m| ", ";c0000|;", "|C", "|M"};
         for (String marked : broken) {
             String page = marked.replace("|", "");
-            RowUnwinder x = Due.written(page);
+            Used x = Due.written(page);
             long ahead = x.digest();
             Due.is("fault() of " + marked, x.fault(), marked.indexOf('|'));
             Due.refused("text() of " + marked, x, ahead, x.text(), RowUnwinder.STATE);
@@ -120,7 +120,7 @@ public final class PageTest {
     }
 
     private static void testText() {
-        RowUnwinder x = Due.read("s00;c0000/;");
+        Used x = Due.read("s00;c0000/;");
         Due.is("count(7)", x.count(7), 1);
         Due.is("count(6)", x.count(6), 0);
         long ahead = x.digest();
@@ -132,7 +132,7 @@ public final class PageTest {
     }
 
     private static void testAnotherText() {
-        RowUnwinder x = Due.read("s00;a0900f0901/s11;");
+        Used x = Due.read("s00;a0900f0901/s11;");
         x.set(0, 5);
         x.call(0);
         x.call(1);
@@ -157,7 +157,7 @@ public final class PageTest {
         Due.is("restore()", x.restore(), RowUnwinder.STATE);
         Due.is("call(0)", x.call(0), 1);
         Due.is("a cell of a new frame", x.frame(0, 2), 0);
-        RowUnwinder fresh = Due.read(";c0000");
+        Used fresh = Due.read(";c0000");
         fresh.call(0);
         Due.write(x, "m");
         Due.write(fresh, "m");

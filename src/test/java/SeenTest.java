@@ -15,7 +15,7 @@ public final class SeenTest {
     }
 
     private static void testSeeAndForget() {
-        RowUnwinder x = Due.read(";c0900c0900/;c0900");
+        Used x = Due.read(";c0900c0900/;c0900");
         Due.is("forget()", x.forget(), 0);
         for (int many = 1; many <= 6; many++) {
             Due.is("see()", x.see(many % 2, 0, 2, 0), many);
@@ -34,7 +34,7 @@ public final class SeenTest {
     }
 
     private static void testRefusals() {
-        RowUnwinder x = Due.read(";c0900");
+        Used x = Due.read(";c0900");
         long ahead = x.digest();
         int[] types = {-1, 5, MIN, MAX};
         for (int type : types) {
@@ -53,7 +53,7 @@ public final class SeenTest {
         int[][] due = {{C | U, A, F | G}, {0, C | A | U | G, F}, {C, A | U, F | G}};
         for (int type = 0; type < 5; type++) {
             for (int did = 0; did < 3; did++) {
-                RowUnwinder x = Due.read(";f0920f0920/;g0920");
+                Used x = Due.read(";f0920f0920/;g0920");
                 x.see(0, 1, type, did);
                 int row = type < 2 ? 0 : type == 2 ? 1 : 2;
                 Due.is("SORTS when " + type + " did " + did, x.pad(0, 1, 5), due[row][did]);
@@ -66,7 +66,7 @@ public final class SeenTest {
     }
 
     private static void testSortsBySeveral() {
-        RowUnwinder x = Due.read(";c0920a0920u0940");
+        Used x = Due.read(";c0920a0920u0940");
         x.see(0, 0, 2, 1);
         Due.is("SORTS", x.pad(0, 0, 5), C | A | U | G);
         x.see(0, 0, 3, 1);
@@ -86,7 +86,7 @@ public final class SeenTest {
 
     private static void testAsk() {
         // TYPE 2, all SORTS: at 0 and 1 two at worst (c, u | a | f, g), at 2 four, at 3 two: the least of like ones.
-        RowUnwinder x = Due.read(";c0920c0900c0910/;c0940");
+        Used x = Due.read(";c0920c0900c0910/;c0940");
         Due.is("ASK", x.pad(0, 0, 6), 0);
         // TYPE 0: at 0 four, above 0 two.
         Due.is("ASK", x.pad(0, 1, 6), 1);

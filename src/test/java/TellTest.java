@@ -11,14 +11,14 @@ public final class TellTest {
         Due.end("TellTest");
     }
 
-    private static void counts(RowUnwinder x, int... due) {
+    private static void counts(Used x, int... due) {
         for (int what = 0; what < 8; what++) {
             Due.is("count(" + what + ")", x.count(what), due[what]);
         }
     }
 
     private static void testCount() {
-        RowUnwinder x = new RowUnwinder();
+        Used x = new Used();
         counts(x, 0, 0, 0, 0, 0, 0, 0, 0);
         Due.write(x, "s00+5u0;a0900/;c0900f0900/;");
         counts(x, 0, 0, 0, 0, 0, 0, 27, 0);
@@ -50,8 +50,8 @@ public final class TellTest {
         for (int number = 0; number < 4 + 1 + 8; number++) {
             add(0);
         }
-        Due.is("digest() of a new object", new RowUnwinder().digest(), h);
-        RowUnwinder x = Due.written("s");
+        Due.is("digest() of a new object", new Used().digest(), h);
+        Used x = Due.written("s");
         h = 1399;
         for (int number = 0; number < 4 + 1; number++) {
             add(0);
@@ -64,7 +64,7 @@ public final class TellTest {
     }
 
     private static void testDigest() {
-        RowUnwinder x = Due.read("s00ms11+2u0+3b;f0900a0904/s25;g0930f2300");
+        Used x = Due.read("s00ms11+2u0+3b;f0900a0904/s25;g0930f2300");
         Due.is("digest()", x.digest(), digestOf(x, ""));
         x.set(0, 999);
         x.call(0);
@@ -83,21 +83,21 @@ public final class TellTest {
     }
 
     /** By what the other calls tell, each for itself. */
-    private static long digestOf(RowUnwinder x, String page) {
+    private static long digestOf(Used x, String page) {
         h = 1399;
-        for (int function = 0; x.row(function, 0, 0) != RowUnwinder.UNKNOWN; function++) {
+        for (int function = 0; function < x.count(0); function++) {
             for (int address = 0; address < 10; address++) {
                 for (int what = 0; what < 6; what++) {
                     add(x.row(function, address, what));
                 }
             }
-            for (int pad = 0; x.pad(function, pad, 0) != RowUnwinder.UNKNOWN; pad++) {
+            for (int pad = 0; pad < 3 && x.pad(function, pad, 0) >= 0; pad++) {
                 for (int what = 0; what < 7; what++) {
                     add(x.pad(function, pad, what));
                 }
             }
         }
-        for (int frame = 0; x.frame(frame, 0) != RowUnwinder.UNKNOWN; frame++) {
+        for (int frame = 0; frame < x.count(2); frame++) {
             for (int what = 0; what < 12; what++) {
                 add(x.frame(frame, what));
             }
@@ -112,7 +112,7 @@ public final class TellTest {
         }
         add(x.loose());
         add(x.finished(N));
-        for (int number = 0; x.finished(number) != RowUnwinder.UNKNOWN; number++) {
+        for (int number = 0; number < x.finished(N); number++) {
             add(x.finished(number));
         }
         for (int place = 0; place < page.length(); place++) {

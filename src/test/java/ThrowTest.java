@@ -17,14 +17,14 @@ public final class ThrowTest {
         Due.end("ThrowTest");
     }
 
-    private static void search(RowUnwinder x, int type, int frame, int pad, int finishing) {
+    private static void search(Used x, int type, int frame, int pad, int finishing) {
         Due.is("search(" + type + ", 0)", x.search(type, 0), frame);
         Due.is("search(" + type + ", 1)", x.search(type, 1), pad);
         Due.is("search(" + type + ", 2)", x.search(type, 2), finishing);
     }
 
     /** Behind a raise: which FINISHED, in order. */
-    private static void finished(RowUnwinder x, int... due) {
+    private static void finished(Used x, int... due) {
         Due.is("finished(NONE)", x.finished(N), due.length);
         for (int number = 0; number < due.length; number++) {
             Due.is("finished(" + number + ")", x.finished(number), due[number]);
@@ -38,11 +38,11 @@ public final class ThrowTest {
         int[] caught = {0b00100, 0b11111, 0, 0b11100, 0b00100};
         int[] finishing = {0, 0, 0b11111, 0, 0b11011};
         for (int kind = 0; kind < 5; kind++) {
-            RowUnwinder alone = Due.read(";" + letters.charAt(kind) + "0924");
+            Used alone = Due.read(";" + letters.charAt(kind) + "0924");
             alone.call(0);
             Due.is("loose() of KIND " + kind, alone.loose(), 31 & ~caught[kind]);
             for (int type = 0; type < 5; type++) {
-                RowUnwinder x = Due.read(";" + letters.charAt(kind) + "0924a0903");
+                Used x = Due.read(";" + letters.charAt(kind) + "0924a0903");
                 x.call(0);
                 boolean catches = (caught[kind] >> type & 1) == 1;
                 int finishes = finishing[kind] >> type & 1;
@@ -55,7 +55,7 @@ public final class ThrowTest {
     }
 
     private static void testAddresses() {
-        RowUnwinder x = Due.read(";f1310c2310a3419");
+        Used x = Due.read(";f1310c2310a3419");
         x.call(0);
         int[] pads = {N, N, 1, 1, 2, N};
         int[] finishing = {N, N, 1, 1, 0, N};
@@ -67,7 +67,7 @@ public final class ThrowTest {
     }
 
     private static void testFirstCatches() {
-        RowUnwinder x = Due.read(";c0905u0906a0907/;a0908/;");
+        Used x = Due.read(";c0905u0906a0907/;a0908/;");
         x.call(1);
         x.call(0);
         search(x, 0, 0, 0, 0);
@@ -84,7 +84,7 @@ public final class ThrowTest {
 
     private static void testUnwinding() {
         // FRAMES, from the latest: FUNCTION 2 (FINISH and GUARD), 1 (GUARD that is not for its ADDRESS), 2, 0 (catches).
-        RowUnwinder x = Due.read(";f0901g0922c0933/;f1911g0010/;g0930f0940");
+        Used x = Due.read(";f0901g0922c0933/;f1911g0010/;g0930f0940");
         x.call(0);
         x.call(2);
         x.call(1);
@@ -98,7 +98,7 @@ public final class ThrowTest {
         Due.is("FRAMES", x.count(2), 1);
         Due.is("AT", x.frame(0, 1), 2);
         // Nothing FINISHED this time.
-        RowUnwinder y = Due.read(";a0900");
+        Used y = Due.read(";a0900");
         y.call(0);
         Due.is("raise(4)", y.raise(4), 0);
         finished(y);
@@ -113,7 +113,7 @@ public final class ThrowTest {
     }
 
     private static void testRegistersAndCells() {
-        RowUnwinder x = Due.read("s00+1s01;a1908/s13;/s25+1u2;");
+        Used x = Due.read("s00+1s01;a1908/s13;/s25+1u2;");
         x.set(0, 1);
         x.set(1, 2);
         x.set(2, 3);
@@ -141,7 +141,7 @@ public final class ThrowTest {
     }
 
     private static void testNobody() {
-        RowUnwinder x = Due.read(";f0900c0910");
+        Used x = Due.read(";f0900c0910");
         Due.is("loose() without a FRAME", x.loose(), 31);
         search(x, 1, N, N, N);
         long ahead = x.digest();
@@ -155,7 +155,7 @@ public final class ThrowTest {
     }
 
     private static void testLandingDoesNoOps() {
-        RowUnwinder x = Due.read("+5s00+1s01;a0005");
+        Used x = Due.read("+5s00+1s01;a0005");
         x.set(0, 7);
         x.call(0);
         Due.is("raise(0)", x.raise(0), 0);
@@ -175,7 +175,7 @@ public final class ThrowTest {
     }
 
     private static void testMostFinishers() {
-        RowUnwinder x = Due.read(";f0900g0940f0910/;f0900f0900a0900");
+        Used x = Due.read(";f0900g0940f0910/;f0900f0900a0900");
         x.call(1);
         for (int many = 2; many <= 8; many++) {
             x.call(0);
@@ -192,7 +192,7 @@ public final class ThrowTest {
     }
 
     private static void testMorePadsAbove() {
-        RowUnwinder x = Due.read(";a0900/;f0900f0910g0920/;");
+        Used x = Due.read(";a0900/;f0900f0910g0920/;");
         x.call(0);
         x.call(2);
         x.call(1);
@@ -203,7 +203,7 @@ public final class ThrowTest {
     }
 
     private static void testChange() {
-        RowUnwinder x = Due.read(";c0910a0900/;f0900");
+        Used x = Due.read(";c0910a0900/;f0900");
         x.call(0);
         x.call(1);
         Due.is("change(1, 0, 1)", x.change(1, 0, 1), 2);
@@ -222,7 +222,7 @@ public final class ThrowTest {
     }
 
     private static void testRefusals() {
-        RowUnwinder x = Due.read(";a0900");
+        Used x = Due.read(";a0900");
         x.call(0);
         long ahead = x.digest();
         int[] types = {-1, 5, MIN, MAX};
@@ -241,7 +241,7 @@ public final class ThrowTest {
         }
         Due.refused("search", x, ahead, x.search(4, 2), 0);
         Due.refused("loose", x, ahead, x.loose(), 0);
-        RowUnwinder none = new RowUnwinder();
+        Used none = new Used();
         Due.is("raise without a TEXT, outside", none.raise(5), RowUnwinder.OUTSIDE);
         Due.is("search without a TEXT, outside", none.search(0, 3), RowUnwinder.OUTSIDE);
         Due.is("search without a TEXT, outside", none.search(5, 0), RowUnwinder.OUTSIDE);

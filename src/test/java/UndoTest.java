@@ -14,13 +14,13 @@ public final class UndoTest {
         Due.end("UndoTest");
     }
 
-    private static void undone(String call, RowUnwinder x, long ahead, int left) {
+    private static void undone(String call, Used x, long ahead, int left) {
         Due.is("undo() of " + call, x.undo(), left);
         Due.is("digest() behind undo() of " + call, x.digest(), ahead);
     }
 
     private static void testEachIsTakenBack() {
-        RowUnwinder x = Due.read("s00s11+1s02;a0903/;f0900");
+        Used x = Due.read("s00s11+1s02;a0903/;f0900");
         x.set(0, 5);
         x.call(0);
         long ahead = x.digest();
@@ -53,7 +53,7 @@ public final class UndoTest {
     }
 
     private static void testWhatCannotBe() {
-        RowUnwinder x = Due.read(";c0900");
+        Used x = Due.read(";c0900");
         x.call(0);
         Due.is("count(3)", x.count(3), 1);
         Due.is("raise that nobody catches", x.raise(1), N);
@@ -82,7 +82,7 @@ public final class UndoTest {
     }
 
     private static void testLatestThirty() {
-        RowUnwinder x = Due.read(";");
+        Used x = Due.read(";");
         for (int value = 1; value <= 75; value++) {
             x.set(0, value);
             Due.is("count(3)", x.count(3), Math.min(value, 30));
@@ -101,7 +101,7 @@ public final class UndoTest {
     }
 
     private static void testFinishedIsTakenBack() {
-        RowUnwinder x = Due.read(";f0900f0900a0900/;f0900");
+        Used x = Due.read(";f0900f0900a0900/;f0900");
         x.call(0);
         x.raise(0);
         x.call(1);
@@ -122,7 +122,7 @@ public final class UndoTest {
 
     /** SEEN and THE PAGE are not what is taken back. */
     private static void testWhatStays() {
-        RowUnwinder x = Due.read(";c0900");
+        Used x = Due.read(";c0900");
         x.call(0);
         x.see(0, 0, 1, 0);
         x.letter('m');
@@ -133,7 +133,7 @@ public final class UndoTest {
     }
 
     private static void testImage() {
-        RowUnwinder x = Due.read("s00;f0900a0903/;g0940");
+        Used x = Due.read("s00;f0900a0903/;g0940");
         x.set(0, 5);
         x.call(0);
         x.set(0, 6);
@@ -172,7 +172,7 @@ public final class UndoTest {
     }
 
     private static void testImageRefusals() {
-        RowUnwinder x = Due.read(";");
+        Used x = Due.read(";");
         long ahead = x.digest();
         Due.refused("restore without an IMAGE", x, ahead, x.restore(), RowUnwinder.STATE);
         x.image();
@@ -189,7 +189,7 @@ public final class UndoTest {
     }
 
     private static void testImageKeepsWhatCanBeTakenBack() {
-        RowUnwinder x = Due.read(";");
+        Used x = Due.read(";");
         for (int value = 1; value <= 40; value++) {
             x.set(0, value);
         }

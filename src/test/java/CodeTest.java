@@ -14,45 +14,38 @@ public final class CodeTest {
         Due.end("CodeTest");
     }
 
-    /** What row() tells for 0 to 5. */
-    private static void row(Used x, int function, int address, int... due) {
-        for (int what = 0; what < 6; what++) {
-            Due.is("row(" + function + ", " + address + ", " + what + ")", x.row(function, address, what), due[what]);
-        }
-    }
-
     private static void testRows() {
         Used x = Due.read("s02+3s15m+2b+4s30;/;/+1+1u2;");
-        row(x, 0, 0, 2, N, N, N, 0, 0);
-        row(x, 0, 2, 2, N, N, N, 0, 0);
-        row(x, 0, 3, 2, 5, N, N, 1, 3);
-        row(x, 0, 4, 2, 5, N, N, 1, 3);
-        row(x, 0, 5, 2, 5, N, N, 0, 5);
-        row(x, 0, 8, 2, 5, N, N, 0, 5);
-        row(x, 0, 9, 2, 5, N, 0, 0, 9);
+        Told.row(x, 0, 0, 2, N, N, N, 0, 0);
+        Told.row(x, 0, 2, 2, N, N, N, 0, 0);
+        Told.row(x, 0, 3, 2, 5, N, N, 1, 3);
+        Told.row(x, 0, 4, 2, 5, N, N, 1, 3);
+        Told.row(x, 0, 5, 2, 5, N, N, 0, 5);
+        Told.row(x, 0, 8, 2, 5, N, N, 0, 5);
+        Told.row(x, 0, 9, 2, 5, N, 0, 0, 9);
         for (int address = 0; address < 10; address++) {
-            row(x, 1, address, N, N, N, N, 0, 0);
-            row(x, 2, address, N, N, N, N, 0, address < 2 ? 0 : 2);
+            Told.row(x, 1, address, N, N, N, N, 0, 0);
+            Told.row(x, 2, address, N, N, N, N, 0, address < 2 ? 0 : 2);
         }
     }
 
     private static void testRowsAreReplacedAndRemembered() {
         Used x = Due.read("s00m+1s01m+1s02m;/mm+1s05m+1bb;/s00s10s01+9;");
-        row(x, 0, 0, 0, N, N, N, 1, 0);
-        row(x, 0, 1, 1, N, N, N, 2, 1);
-        row(x, 0, 2, 2, N, N, N, 3, 2);
-        row(x, 1, 0, N, N, N, N, 2, 0);
-        row(x, 1, 1, 5, N, N, N, 3, 1);
-        row(x, 1, 9, N, N, N, N, 1, 2);
-        row(x, 2, 0, 1, 0, N, N, 0, 0);
-        row(x, 2, 9, 1, 0, N, N, 0, 0);
+        Told.row(x, 0, 0, 0, N, N, N, 1, 0);
+        Told.row(x, 0, 1, 1, N, N, N, 2, 1);
+        Told.row(x, 0, 2, 2, N, N, N, 3, 2);
+        Told.row(x, 1, 0, N, N, N, N, 2, 0);
+        Told.row(x, 1, 1, 5, N, N, N, 3, 1);
+        Told.row(x, 1, 9, N, N, N, N, 1, 2);
+        Told.row(x, 2, 0, 1, 0, N, N, 0, 0);
+        Told.row(x, 2, 9, 1, 0, N, N, 0, 0);
         // One upon the other: the latest is taken off first.
         x = Due.read("s00ms01m+1b+1b;/s00mu0+1s10b;");
-        row(x, 0, 0, 1, N, N, N, 2, 0);
-        row(x, 0, 1, 1, N, N, N, 1, 1);
-        row(x, 0, 2, 0, N, N, N, 0, 2);
-        row(x, 1, 0, N, N, N, N, 1, 0);
-        row(x, 1, 1, 0, N, N, N, 0, 1);
+        Told.row(x, 0, 0, 1, N, N, N, 2, 0);
+        Told.row(x, 0, 1, 1, N, N, N, 1, 1);
+        Told.row(x, 0, 2, 0, N, N, N, 0, 2);
+        Told.row(x, 1, 0, N, N, N, N, 1, 0);
+        Told.row(x, 1, 1, 0, N, N, N, 0, 1);
     }
 
     private static void testRowRefusals() {

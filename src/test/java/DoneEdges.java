@@ -388,40 +388,32 @@ final class DoneEdges {
         Due.is("register(0) of the IMAGE", x.register(0), 1);
     }
 
-    private static void finished(Used x, int... due) {
-        Due.is("finished(NONE)", x.finished(N), due.length);
-        for (int number = 0; number < due.length; number++) {
-            Due.is("finished(" + number + ")", x.finished(number), due[number]);
-        }
-        Due.is("one more", x.finished(due.length), UNKNOWN);
-    }
-
     private static void undoOfFinished() {
         Used x = Due.read(";f0900g0940a0902/;f0900c0930");
         x.call(0);
         x.call(1);
-        finished(x);
+        Told.finished(x);
         x.raise(0);
-        finished(x, 10, 0, 1);
+        Told.finished(x, 10, 0, 1);
         x.call(1);
         x.raise(3);
-        finished(x, 10);
+        Told.finished(x, 10);
         x.raise(3);
-        finished(x, 10);
+        Told.finished(x, 10);
         x.back();
         x.raise(4);
-        finished(x, 0);
+        Told.finished(x, 0);
         x.undo();
-        finished(x, 10);
+        Told.finished(x, 10);
         x.undo();
         x.undo();
-        finished(x, 10);
+        Told.finished(x, 10);
         x.undo();
-        finished(x, 10, 0, 1);
+        Told.finished(x, 10, 0, 1);
         x.undo();
-        finished(x, 10, 0, 1);
+        Told.finished(x, 10, 0, 1);
         x.undo();
-        finished(x);
+        Told.finished(x);
     }
 
     private static void undoOfThirty() {

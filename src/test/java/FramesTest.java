@@ -82,43 +82,37 @@ public final class FramesTest {
         Due.is("the other FRAME", x.frame(1, 1), 9);
     }
 
-    private static void cells(Used x, int frame, int... due) {
-        for (int cell = 0; cell < 6; cell++) {
-            Due.is("CELL " + cell + " of FRAME " + frame, x.frame(frame, 2 + cell), due[cell]);
-        }
-    }
-
     private static void testCells() {
         Used x = Due.read("s00s15+2s02+1s22s30;/s00s10u1s04;");
         x.set(0, 10);
         x.set(1, 20);
         x.call(0);
-        cells(x, 0, 10, 0, 0, 0, 0, 20);
+        Told.cells(x, 0, 10, 0, 0, 0, 0, 20);
         x.set(0, 11);
         x.set(2, 30);
         x.set(3, 40);
         x.go(1);
-        cells(x, 0, 10, 0, 0, 0, 0, 20);
+        Told.cells(x, 0, 10, 0, 0, 0, 0, 20);
         x.go(1);
-        cells(x, 0, 10, 0, 11, 0, 0, 20);
+        Told.cells(x, 0, 10, 0, 11, 0, 0, 20);
         // Each OP "s" at ADDRESS 3 only, and each ADDRESS on the way.
         x.go(7);
-        cells(x, 0, 40, 0, 30, 0, 0, 20);
+        Told.cells(x, 0, 40, 0, 30, 0, 0, 20);
         // Two OPS into the same CELL: the later one stands; a REGISTER that is SAVED nowhere was SAVED all the same.
         x.call(1);
-        cells(x, 0, 20, 0, 0, 0, 11, 0);
-        cells(x, 1, 40, 0, 30, 0, 0, 20);
+        Told.cells(x, 0, 20, 0, 0, 0, 11, 0);
+        Told.cells(x, 1, 40, 0, 30, 0, 0, 20);
         // A new FRAME where another one was begins with zeros.
         x.back();
         x.call(0);
-        cells(x, 0, 11, 0, 0, 0, 0, 20);
+        Told.cells(x, 0, 11, 0, 0, 0, 0, 20);
         x = Due.read("s00s01s02s03s04s05;/;");
         x.set(0, 9);
         x.call(0);
-        cells(x, 0, 9, 9, 9, 9, 9, 9);
+        Told.cells(x, 0, 9, 9, 9, 9, 9, 9);
         x.back();
         x.call(1);
-        cells(x, 0, 0, 0, 0, 0, 0, 0);
+        Told.cells(x, 0, 0, 0, 0, 0, 0, 0);
     }
 
     private static void testBack() {

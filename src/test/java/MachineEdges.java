@@ -128,27 +128,21 @@ final class MachineEdges {
         }
     }
 
-    private static void cells(Used x, int frame, int... due) {
-        for (int cell = 0; cell < 6; cell++) {
-            Due.is("CELL " + cell + " of FRAME " + frame, x.frame(frame, 2 + cell), due[cell]);
-        }
-    }
-
     private static void sixCells() {
         Used x = Due.read("s00s01s02s03s04s05;/+1s00s05;");
         x.set(0, 9);
         x.call(0);
-        cells(x, 0, 9, 9, 9, 9, 9, 9);
+        Told.cells(x, 0, 9, 9, 9, 9, 9, 9);
         x.call(1);
-        cells(x, 0, 0, 0, 0, 0, 0, 0);
-        cells(x, 1, 9, 9, 9, 9, 9, 9);
+        Told.cells(x, 0, 0, 0, 0, 0, 0, 0);
+        Told.cells(x, 1, 9, 9, 9, 9, 9, 9);
         x.go(1);
-        cells(x, 0, 9, 0, 0, 0, 0, 9);
+        Told.cells(x, 0, 9, 0, 0, 0, 0, 9);
         // A FRAME where another one was begins with zeros, too.
         x.back();
         x.back();
         x.call(1);
-        cells(x, 0, 0, 0, 0, 0, 0, 0);
+        Told.cells(x, 0, 0, 0, 0, 0, 0, 0);
         Due.is("a seventh CELL is none", x.frame(0, 8), 9);
     }
 
@@ -180,24 +174,24 @@ final class MachineEdges {
         Used x = Due.read("s00+1s01+1s02+7s03;/s10s20s00u0s01;");
         x.set(0, 5);
         x.call(0);
-        cells(x, 0, 5, 0, 0, 0, 0, 0);
+        Told.cells(x, 0, 5, 0, 0, 0, 0, 0);
         x.go(1);
-        cells(x, 0, 5, 5, 0, 0, 0, 0);
+        Told.cells(x, 0, 5, 5, 0, 0, 0, 0);
         x.back();
         x.call(0);
         x.go(8);
-        cells(x, 0, 5, 5, 5, 0, 0, 0);
+        Told.cells(x, 0, 5, 5, 5, 0, 0, 0);
         x.go(1);
-        cells(x, 0, 5, 5, 5, 5, 0, 0);
+        Told.cells(x, 0, 5, 5, 5, 5, 0, 0);
         x.back();
         x.call(0);
         x.go(9);
-        cells(x, 0, 5, 5, 5, 5, 0, 0);
+        Told.cells(x, 0, 5, 5, 5, 5, 0, 0);
         // Each "s", of several into a CELL the last one, and one that an "u" comes behind.
         x.set(1, 6);
         x.set(2, 7);
         x.call(1);
-        cells(x, 0, 5, 5, 0, 0, 0, 0);
+        Told.cells(x, 0, 5, 5, 0, 0, 0, 0);
     }
 
     private static void asTheRegisterIsNow() {
@@ -205,17 +199,17 @@ final class MachineEdges {
         x.set(0, 999);
         x.call(0);
         x.set(0, 1);
-        cells(x, 0, 999, 0, 0, 0, 0, 0);
+        Told.cells(x, 0, 999, 0, 0, 0, 0, 0);
         x.go(2);
-        cells(x, 0, 999, 1, 0, 0, 0, 0);
+        Told.cells(x, 0, 999, 1, 0, 0, 0, 0);
         x.set(0, 2);
         x.go(1);
-        cells(x, 0, 2, 1, 0, 0, 0, 0);
+        Told.cells(x, 0, 2, 1, 0, 0, 0, 0);
         x.set(0, 0);
         x.go(6);
-        cells(x, 0, 2, 1, 0, 0, 0, 0);
+        Told.cells(x, 0, 2, 1, 0, 0, 0, 0);
         x.set(0, 3);
-        cells(x, 0, 2, 1, 0, 0, 0, 0);
+        Told.cells(x, 0, 2, 1, 0, 0, 0, 0);
     }
 
     /** REGISTER 0 behind BACK from each ADDRESS. */
@@ -316,58 +310,45 @@ final class MachineEdges {
         Due.is("raise(5)", x.raise(5), OUTSIDE);
     }
 
-    private static void search(Used x, int type, int frame, int pad, int finishing) {
-        Due.is("search(" + type + ", 0)", x.search(type, 0), frame);
-        Due.is("search(" + type + ", 1)", x.search(type, 1), pad);
-        Due.is("search(" + type + ", 2)", x.search(type, 2), finishing);
-    }
-
     private static void searchInOrder() {
         Used x = Due.read(";c0911u0922a0933/;u0944");
         x.call(0);
         x.call(1);
         x.call(0);
-        search(x, 0, 0, 2, 0);
-        search(x, 1, 0, 0, 0);
-        search(x, 2, 0, 1, 0);
-        search(x, 4, 0, 1, 0);
+        Told.search(x, 0, 0, 2, 0);
+        Told.search(x, 1, 0, 0, 0);
+        Told.search(x, 2, 0, 1, 0);
+        Told.search(x, 4, 0, 1, 0);
         x.back();
-        search(x, 4, 0, 0, 0);
-        search(x, 3, 1, 1, 0);
-        search(x, 0, 1, 2, 0);
+        Told.search(x, 4, 0, 0, 0);
+        Told.search(x, 3, 1, 1, 0);
+        Told.search(x, 0, 1, 2, 0);
     }
 
     private static void searchForAddress() {
         Used x = Due.read(";a0000f1100a1200/;a0900");
         x.call(1);
         x.call(0);
-        search(x, 0, 0, 0, 0);
+        Told.search(x, 0, 0, 0, 0);
         x.go(1);
-        search(x, 0, 0, 2, 1);
+        Told.search(x, 0, 0, 2, 1);
         x.go(1);
-        search(x, 0, 0, 2, 0);
+        Told.search(x, 0, 0, 2, 0);
         x.go(1);
-        search(x, 0, 1, 0, 0);
+        Told.search(x, 0, 1, 0, 0);
         x.go(6);
-        search(x, 0, 1, 0, 0);
+        Told.search(x, 0, 1, 0, 0);
     }
 
     private static void searchFindsNone() {
         Used x = Due.read(";c0930f0900/;");
-        search(x, 3, N, N, N);
+        Told.search(x, 3, N, N, N);
         x.call(1);
-        search(x, 3, N, N, N);
+        Told.search(x, 3, N, N, N);
         x.call(0);
-        search(x, 3, 0, 0, 0);
-        search(x, 2, N, N, N);
-        search(x, 4, N, N, N);
-    }
-
-    private static void finished(Used x, int... due) {
-        Due.is("finished(NONE)", x.finished(N), due.length);
-        for (int number = 0; number < due.length; number++) {
-            Due.is("finished(" + number + ")", x.finished(number), due[number]);
-        }
+        Told.search(x, 3, 0, 0, 0);
+        Told.search(x, 2, N, N, N);
+        Told.search(x, 4, N, N, N);
     }
 
     private static void finishersAbove() {
@@ -377,15 +358,15 @@ final class MachineEdges {
         x.call(2);
         x.call(1);
         x.go(1);
-        search(x, 2, 3, 0, 6);
+        Told.search(x, 2, 3, 0, 6);
         Due.is("raise(2)", x.raise(2), 3);
-        finished(x, 11, 12, 21, 22, 10, 11);
+        Told.finished(x, 11, 12, 21, 22, 10, 11);
         x.undo();
         Due.is("raise(3)", x.raise(3), 1);
-        finished(x, 11, 12);
+        Told.finished(x, 11, 12);
         x.undo();
         Due.is("raise(4)", x.raise(4), 0);
-        finished(x);
+        Told.finished(x);
     }
 
     private static void backFromEach() {
@@ -415,18 +396,18 @@ final class MachineEdges {
     private static void finishersAhead() {
         Used x = Due.read(";f0900c0900f0900/;g0910f1900a0900");
         x.call(0);
-        search(x, 0, 0, 1, 1);
+        Told.search(x, 0, 0, 1, 1);
         x.raise(0);
-        finished(x, 0);
+        Told.finished(x, 0);
         x.call(1);
-        search(x, 0, 0, 2, 1);
+        Told.search(x, 0, 0, 2, 1);
         x.raise(0);
-        finished(x, 10);
+        Told.finished(x, 10);
         x.go(1);
-        search(x, 0, 0, 2, 2);
+        Told.search(x, 0, 0, 2, 2);
         x.raise(0);
-        finished(x, 10, 11);
-        search(x, 1, 0, 0, 0);
+        Told.finished(x, 10, 11);
+        Told.search(x, 1, 0, 0, 0);
     }
 
     private static void landing() {
@@ -439,12 +420,12 @@ final class MachineEdges {
             x.set(0, 9);
             Due.is("raise(0)", x.raise(0), 0);
             Due.is("ADDRESS", x.frame(0, 1), at);
-            cells(x, 0, 7, 8, 0, 0, 0, 0);
+            Told.cells(x, 0, 7, 8, 0, 0, 0, 0);
             Due.is("REGISTER 0", x.register(0), 9);
             if (at != 5) {
                 Due.is("raise(0)", x.raise(0), 0);
                 Due.is("ADDRESS", x.frame(0, 1), 9);
-                cells(x, 0, 7, 8, 0, 0, 0, 0);
+                Told.cells(x, 0, 7, 8, 0, 0, 0, 0);
             }
         }
     }

@@ -294,25 +294,19 @@ final class TextEdges {
         return x;
     }
 
-    private static void row(Used x, int function, int address, int... due) {
-        for (int what = 0; what < due.length; what++) {
-            Due.is("row(" + function + ", " + address + ", " + what + ")", x.row(function, address, what), due[what]);
-        }
-    }
-
     private static void rowCells() {
         Used x = Due.read("s00s15s21s34;/;/+9s35;");
         for (int address = 0; address < 10; address++) {
-            row(x, 0, address, 0, 5, 1, 4);
-            row(x, 1, address, N, N, N, N);
-            row(x, 2, address, N, N, N, address == 9 ? 5 : N);
+            Told.row(x, 0, address, 0, 5, 1, 4);
+            Told.row(x, 1, address, N, N, N, N);
+            Told.row(x, 2, address, N, N, N, address == 9 ? 5 : N);
         }
         // What is done changes nothing of them.
         x.call(2);
         x.go(5);
         x.set(0, 9);
-        row(x, 2, 5, N, N, N, N);
-        row(x, 0, 5, 0, 5, 1, 4);
+        Told.row(x, 2, 5, N, N, N, N);
+        Told.row(x, 0, 5, 0, 5, 1, 4);
     }
 
     private static void rowRemembered() {

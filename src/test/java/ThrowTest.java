@@ -17,21 +17,6 @@ public final class ThrowTest {
         Due.end("ThrowTest");
     }
 
-    private static void search(Used x, int type, int frame, int pad, int finishing) {
-        Due.is("search(" + type + ", 0)", x.search(type, 0), frame);
-        Due.is("search(" + type + ", 1)", x.search(type, 1), pad);
-        Due.is("search(" + type + ", 2)", x.search(type, 2), finishing);
-    }
-
-    /** Behind a raise: which FINISHED, in order. */
-    private static void finished(Used x, int... due) {
-        Due.is("finished(NONE)", x.finished(N), due.length);
-        for (int number = 0; number < due.length; number++) {
-            Due.is("finished(" + number + ")", x.finished(number), due[number]);
-        }
-        Due.is("finished(" + due.length + ")", x.finished(due.length), RowUnwinder.UNKNOWN);
-    }
-
     /** A PAD of TYPE 2 of each KIND ahead of one that catches everything. */
     private static void testEachKind() {
         String letters = "cafug";
@@ -46,7 +31,7 @@ public final class ThrowTest {
                 x.call(0);
                 boolean catches = (caught[kind] >> type & 1) == 1;
                 int finishes = finishing[kind] >> type & 1;
-                search(x, type, 0, catches ? 0 : 1, finishes);
+                Told.search(x, type, 0, catches ? 0 : 1, finishes);
                 Due.is("raise()", x.raise(type), 0);
                 Due.is("where it goes on", x.frame(0, 1), catches ? 4 : 3);
                 Due.is("how many FINISHED", x.finished(N), finishes);
@@ -60,7 +45,7 @@ public final class ThrowTest {
         int[] pads = {N, N, 1, 1, 2, N};
         int[] finishing = {N, N, 1, 1, 0, N};
         for (int address = 0; address < 6; address++) {
-            search(x, 1, pads[address] == N ? N : 0, pads[address], finishing[address]);
+            Told.search(x, 1, pads[address] == N ? N : 0, pads[address], finishing[address]);
             Due.is("loose() at " + address, x.loose(), pads[address] == N ? 31 : address == 2 ? 29 : 0);
             x.go(1);
         }
@@ -70,12 +55,12 @@ public final class ThrowTest {
         Used x = Due.read(";c0905u0906a0907/;a0908/;");
         x.call(1);
         x.call(0);
-        search(x, 0, 0, 0, 0);
-        search(x, 1, 0, 1, 0);
+        Told.search(x, 0, 0, 0, 0);
+        Told.search(x, 1, 0, 1, 0);
         x.call(0);
-        search(x, 0, 0, 0, 0);
+        Told.search(x, 0, 0, 0, 0);
         x.call(2);
-        search(x, 0, 1, 0, 0);
+        Told.search(x, 0, 1, 0, 0);
         Due.is("raise(0)", x.raise(0), 1);
         Due.is("FRAMES", x.count(2), 3);
         Due.is("AT", x.frame(0, 1), 5);
@@ -91,25 +76,25 @@ public final class ThrowTest {
         x.go(1);
         x.call(2);
         Due.is("loose()", x.loose(), 0b10011);
-        search(x, 2, 3, 1, 6);
-        search(x, 3, 0, 0, 0);
+        Told.search(x, 2, 3, 1, 6);
+        Told.search(x, 3, 0, 0, 0);
         Due.is("raise(2)", x.raise(2), 3);
-        finished(x, 20, 21, 10, 20, 21, 0);
+        Told.finished(x, 20, 21, 10, 20, 21, 0);
         Due.is("FRAMES", x.count(2), 1);
         Due.is("AT", x.frame(0, 1), 2);
         // Nothing FINISHED this time.
         Used y = Due.read(";a0900");
         y.call(0);
         Due.is("raise(4)", y.raise(4), 0);
-        finished(y);
+        Told.finished(y);
         // The latest counts.
         x.call(2);
         Due.is("raise(3)", x.raise(3), 0);
-        finished(x);
+        Told.finished(x);
         Due.is("raise(2)", x.raise(2), 1);
-        finished(x, 20, 21, 0);
+        Told.finished(x, 20, 21, 0);
         Due.is("raise(1)", x.raise(1), N);
-        finished(x, 20, 21, 0);
+        Told.finished(x, 20, 21, 0);
     }
 
     private static void testRegistersAndCells() {
@@ -143,14 +128,14 @@ public final class ThrowTest {
     private static void testNobody() {
         Used x = Due.read(";f0900c0910");
         Due.is("loose() without a FRAME", x.loose(), 31);
-        search(x, 1, N, N, N);
+        Told.search(x, 1, N, N, N);
         long ahead = x.digest();
         Due.refused("raise without a FRAME", x, ahead, x.raise(1), N);
         x.call(0);
         x.call(0);
         ahead = x.digest();
         Due.refused("raise that nobody catches", x, ahead, x.raise(0), N);
-        search(x, 0, N, N, N);
+        Told.search(x, 0, N, N, N);
         Due.is("count(3)", x.count(3), 2);
     }
 
@@ -180,7 +165,7 @@ public final class ThrowTest {
         for (int many = 2; many <= 8; many++) {
             x.call(0);
         }
-        search(x, 0, 7, 2, 23);
+        Told.search(x, 0, 7, 2, 23);
         Due.is("raise(0)", x.raise(0), 7);
         int[] due = new int[23];
         for (int number = 0; number < 21; number++) {
@@ -188,7 +173,7 @@ public final class ThrowTest {
         }
         due[21] = 10;
         due[22] = 11;
-        finished(x, due);
+        Told.finished(x, due);
     }
 
     private static void testMorePadsAbove() {
@@ -197,9 +182,9 @@ public final class ThrowTest {
         x.call(2);
         x.call(1);
         x.call(2);
-        search(x, 3, 3, 0, 3);
+        Told.search(x, 3, 3, 0, 3);
         Due.is("raise(3)", x.raise(3), 3);
-        finished(x, 10, 11, 12);
+        Told.finished(x, 10, 11, 12);
     }
 
     private static void testChange() {
@@ -207,18 +192,18 @@ public final class ThrowTest {
         x.call(0);
         x.call(1);
         Due.is("change(1, 0, 1)", x.change(1, 0, 1), 2);
-        search(x, 0, 0, 0, 0);
+        Told.search(x, 0, 0, 0, 0);
         Due.is("change(1, 0, 1) again", x.change(1, 0, 1), 1);
         Due.is("count(3)", x.count(3), 4);
         Due.is("change(1, 0, 0)", x.change(1, 0, 0), 1);
-        search(x, 3, 1, 1, 0);
+        Told.search(x, 3, 1, 1, 0);
         Due.is("change(0, 0, 3)", x.change(0, 0, 3), 0);
-        search(x, 3, 1, 0, 0);
+        Told.search(x, 3, 1, 0, 0);
         Due.is("change(0, 0, 4)", x.change(0, 0, 4), 3);
-        search(x, 3, 1, 1, 1);
+        Told.search(x, 3, 1, 1, 1);
         Due.is("change(0, 1, 2)", x.change(0, 1, 2), 1);
-        search(x, 1, 1, 0, 0);
-        search(x, 3, N, N, N);
+        Told.search(x, 1, 1, 0, 0);
+        Told.search(x, 3, N, N, N);
     }
 
     private static void testRefusals() {

@@ -24,12 +24,6 @@ final class WouldEdges {
         Due.sentence(SAME, "UNKNOWN: one, other.", WouldEdges::refusedSame);
     }
 
-    private static void search(Used x, int type, int frame, int pad, int finishing) {
-        Due.is("search(" + type + ", 0)", x.search(type, 0), frame);
-        Due.is("search(" + type + ", 1)", x.search(type, 1), pad);
-        Due.is("search(" + type + ", 2)", x.search(type, 2), finishing);
-    }
-
     private static void search() {
         for (int far = 0; far <= 7; far++) {
             for (int pad = 0; pad < 3; pad++) {
@@ -39,9 +33,9 @@ final class WouldEdges {
                     x.call(1);
                 }
                 long ahead = x.digest();
-                search(x, 0, far, pad, 3 * far + pad);
+                Told.search(x, 0, far, pad, 3 * far + pad);
                 Due.is("nothing is done by that", x.digest(), ahead);
-                search(x, 4, 0, far == 0 ? pad : 1, far == 0 ? pad : 1);
+                Told.search(x, 4, 0, far == 0 ? pad : 1, far == 0 ? pad : 1);
                 Due.is("raise(0)", x.raise(0), far);
                 Due.is("finished(NONE)", x.finished(N), 3 * far + pad);
             }
@@ -51,17 +45,17 @@ final class WouldEdges {
     private static void searchNobody() {
         Used x = Due.read(";f0900/;c0930/;");
         for (int type = 0; type < 5; type++) {
-            search(x, type, N, N, N);
+            Told.search(x, type, N, N, N);
         }
         x.call(0);
         x.call(2);
         for (int type = 0; type < 5; type++) {
-            search(x, type, N, N, N);
+            Told.search(x, type, N, N, N);
         }
         x.call(1);
-        search(x, 2, N, N, N);
-        search(x, 3, 0, 0, 0);
-        search(x, 4, N, N, N);
+        Told.search(x, 2, N, N, N);
+        Told.search(x, 3, 0, 0, 0);
+        Told.search(x, 4, N, N, N);
     }
 
     private static void refusedSearch() {
@@ -110,23 +104,15 @@ final class WouldEdges {
         Due.is("loose() with a TEXT", Due.read(";").loose(), 31);
     }
 
-    private static void finished(Used x, int... due) {
-        Due.is("finished(NONE)", x.finished(N), due.length);
-        for (int number = 0; number < due.length; number++) {
-            Due.is("finished(" + number + ")", x.finished(number), due[number]);
-        }
-        Due.is("one more", x.finished(due.length), UNKNOWN);
-    }
-
     private static void latestFinished() {
         Used x = Due.read(";f0900f0900c0930/;a0900f0900/;c0930f0900");
-        finished(x);
+        Told.finished(x);
         x.call(0);
-        finished(x);
+        Told.finished(x);
         x.raise(3);
-        finished(x, 0, 1);
+        Told.finished(x, 0, 1);
         Due.is("raise(2), which nobody CATCHES", x.raise(2), N);
-        finished(x, 0, 1);
+        Told.finished(x, 0, 1);
         Due.is("raise(5)", x.raise(5), OUTSIDE);
         x.set(0, 1);
         x.go(1);
@@ -135,13 +121,13 @@ final class WouldEdges {
         x.change(0, 1, 1);
         x.search(0, 2);
         x.drawn(99, 1, 0);
-        finished(x, 0, 1);
+        Told.finished(x, 0, 1);
         x.call(1);
         x.raise(0);
-        finished(x);
+        Told.finished(x);
         x.call(2);
         x.raise(2);
-        finished(x, 21);
+        Told.finished(x, 21);
     }
 
     /** As many as there can be: of seven FRAMES all PADS, of the last one all but the PAD that CATCHES. */
@@ -158,7 +144,7 @@ final class WouldEdges {
         due[21] = 10;
         due[22] = 11;
         Due.is("raise(0)", x.raise(0), 7);
-        finished(x, due);
+        Told.finished(x, due);
     }
 
     private static void tenTimesTheFunction() {
@@ -170,7 +156,7 @@ final class WouldEdges {
                 x.call(function);
                 x.change((function + 1) % 3, 0, 1);
                 Due.is("raise(4)", x.raise(4), 1);
-                finished(x, 10 * function + pad);
+                Told.finished(x, 10 * function + pad);
             }
         }
     }

@@ -231,31 +231,25 @@ final class WritingEdges {
         }
     }
 
-    private static void row(Used x, int function, int address, int... due) {
-        for (int what = 0; what < due.length; what++) {
-            Due.is("row(" + function + ", " + address + ", " + what + ")", x.row(function, address, what), due[what]);
-        }
-    }
-
     private static void remembers() {
         Used x = Pages.whole("s01s35m+1u0s30+1b;/m+1s00s15+1b;/s00m+1u0m+1bb;");
-        row(x, 0, 0, 1, N, N, 5, 1);
-        row(x, 0, 1, N, N, N, 0, 1);
-        row(x, 0, 2, 1, N, N, 5, 0);
+        Told.row(x, 0, 0, 1, N, N, 5, 1);
+        Told.row(x, 0, 1, N, N, N, 0, 1);
+        Told.row(x, 0, 2, 1, N, N, 5, 0);
         // What was SAVED nowhere is SAVED nowhere again.
-        row(x, 1, 1, 0, 5, N, N, 1);
-        row(x, 1, 2, N, N, N, N, 0);
-        row(x, 2, 1, N, N, N, N, 2);
-        row(x, 2, 2, 0, N, N, N, 0);
+        Told.row(x, 1, 1, 0, 5, N, N, 1);
+        Told.row(x, 1, 2, N, N, N, N, 0);
+        Told.row(x, 2, 1, N, N, N, N, 2);
+        Told.row(x, 2, 2, 0, N, N, N, 0);
     }
 
     private static void threeAtATime() {
         Used x = Pages.whole("mm+1m+1b;/mmm;/+9mmm;");
-        row(x, 0, 0, N, N, N, N, 2);
-        row(x, 0, 1, N, N, N, N, 3);
-        row(x, 0, 2, N, N, N, N, 2);
-        row(x, 1, 9, N, N, N, N, 3);
-        row(x, 2, 8, N, N, N, N, 0);
+        Told.row(x, 0, 0, N, N, N, N, 2);
+        Told.row(x, 0, 1, N, N, N, N, 3);
+        Told.row(x, 0, 2, N, N, N, N, 2);
+        Told.row(x, 1, 9, N, N, N, N, 3);
+        Told.row(x, 2, 8, N, N, N, N, 0);
         Pages.broken("mmm|m");
         Pages.broken("m+1m+1m+1|m");
         Pages.whole("mmmbm;");
@@ -265,12 +259,12 @@ final class WritingEdges {
 
     private static void latestIsTakenOff() {
         Used x = Pages.whole("ms00ms01+1b+1b;/s00ms01+1b+1m;");
-        row(x, 0, 0, 1, N, N, N, 2);
-        row(x, 0, 1, 0, N, N, N, 1);
-        row(x, 0, 2, N, N, N, N, 0);
-        row(x, 1, 0, 1, N, N, N, 1);
-        row(x, 1, 1, 0, N, N, N, 0);
-        row(x, 1, 2, 0, N, N, N, 1);
+        Told.row(x, 0, 0, 1, N, N, N, 2);
+        Told.row(x, 0, 1, 0, N, N, N, 1);
+        Told.row(x, 0, 2, N, N, N, N, 0);
+        Told.row(x, 1, 0, 1, N, N, N, 1);
+        Told.row(x, 1, 1, 0, N, N, N, 0);
+        Told.row(x, 1, 2, 0, N, N, N, 1);
     }
 
     private static void oneToTakeOff() {
@@ -286,19 +280,19 @@ final class WritingEdges {
 
     private static void rows() {
         Used x = Pages.whole("s00+1s01s02u1+1u0;/+5s10;/s00u0s03s14+9u0;");
-        row(x, 0, 0, 0, N, N, N);
-        row(x, 0, 1, 2, N, N, N);
+        Told.row(x, 0, 0, 0, N, N, N);
+        Told.row(x, 0, 1, 2, N, N, N);
         for (int address = 2; address < 10; address++) {
-            row(x, 0, address, N, N, N, N);
+            Told.row(x, 0, address, N, N, N, N);
         }
         // From nothing, though the FUNCTION ahead has SAVED.
-        row(x, 1, 0, N, N, N, N);
-        row(x, 1, 4, N, N, N, N);
-        row(x, 1, 5, N, 0, N, N);
-        row(x, 1, 9, N, 0, N, N);
-        row(x, 2, 0, 3, 4, N, N);
-        row(x, 2, 8, 3, 4, N, N);
-        row(x, 2, 9, N, 4, N, N);
+        Told.row(x, 1, 0, N, N, N, N);
+        Told.row(x, 1, 4, N, N, N, N);
+        Told.row(x, 1, 5, N, 0, N, N);
+        Told.row(x, 1, 9, N, 0, N, N);
+        Told.row(x, 2, 0, 3, 4, N, N);
+        Told.row(x, 2, 8, 3, 4, N, N);
+        Told.row(x, 2, 9, N, 4, N, N);
     }
 
     private static void padLetters() {

@@ -1,10 +1,7 @@
-import java.io.IOException;
 import java.lang.reflect.Constructor;
 import java.lang.reflect.Field;
 import java.lang.reflect.Method;
 import java.lang.reflect.Modifier;
-import java.nio.file.Files;
-import java.nio.file.Path;
 import java.util.Set;
 import java.util.TreeSet;
 import java.util.regex.Matcher;
@@ -19,11 +16,13 @@ public final class FaceTest {
         "int search(int,int)", "int loose()", "int finished(int)", "int same(int,int)", "int see(int,int,int,int)",
         "int forget()", "int drawn(int,int,int)", "int image()", "int restore()", "int count(int)", "long digest()");
 
-    public static void main(String[] args) throws IOException {
+    public static void main(String[] args) {
+        String source = Document.read(args.length > 0 ? args[0] : "src/main/java/RowUnwinder.java");
         testConstants();
         testMembers();
         testClassesInside();
-        testSource(Files.readString(Path.of(args.length > 0 ? args[0] : "src/main/java/RowUnwinder.java")));
+        testDeclarations(source);
+        testSource(source);
         Due.end("FaceTest");
     }
 
@@ -35,12 +34,22 @@ public final class FaceTest {
         Due.is("FULL", RowUnwinder.FULL, -104);
     }
 
+    /** Word by word as the document has them, the names of the parameters too. */
+    private static void testDeclarations(String source) {
+        for (String declaration : Document.face()) {
+            boolean isThere = source.contains("\n    " + declaration + (declaration.contains("(") ? " {\n" : ";\n"));
+            Due.is("whether the class has '" + declaration + "'", isThere ? 1 : 0, 1);
+        }
+        Due.is("declarations of the document", Document.face().size(), 29);
+    }
+
     private static void testMembers() {
         Class<?> face = RowUnwinder.class;
         Due.is("a public final class", face.getModifiers() & (Modifier.PUBLIC | Modifier.FINAL), Modifier.PUBLIC | Modifier.FINAL);
         Set<String> found = new TreeSet<>();
         Set<String> privates = new TreeSet<>();
         for (Method method : face.getDeclaredMethods()) {
+            Due.is(method + " has at most seven parameters", method.getParameterCount() <= 7 ? 1 : 0, 1);
             if (Modifier.isPublic(method.getModifiers())) {
                 found.add(signature(method));
             } else {
@@ -92,6 +101,15 @@ public final class FaceTest {
                 fields += isStatic ? 0 : 1;
             }
             Due.is(one + " has at most twenty fields", fields <= 20 ? 1 : 0, 1);
+            testMethodsInside(one);
+        }
+    }
+
+    private static void testMethodsInside(Class<?> inside) {
+        for (Method method : inside.getDeclaredMethods()) {
+            Due.is(method + " has at most seven parameters", method.getParameterCount() <= 7 ? 1 : 0, 1);
+            boolean isCalledAsACall = METHODS.stream().anyMatch(call -> call.contains(" " + method.getName() + "("));
+            Due.is(method + " is called otherwise than the calls", isCalledAsACall ? 1 : 0, 0);
         }
     }
 

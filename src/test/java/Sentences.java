@@ -1,14 +1,9 @@
-import java.io.IOException;
-import java.io.UncheckedIOException;
-import java.nio.file.Files;
-import java.nio.file.Path;
 import java.util.LinkedHashMap;
 import java.util.Map;
 import java.util.TreeMap;
 
 /** The document by its sections, and which of their words a test has named: each is to be named by one. */
 final class Sentences {
-    private static final Path DOCUMENT = Path.of("../shared/DOC.md");
     private static final Map<String, String> SECTIONS = sections();
     private static final Map<String, boolean[]> NAMED = new TreeMap<>();
 
@@ -17,7 +12,7 @@ final class Sentences {
 
     private static Map<String, String> sections() {
         Map<String, String> sections = new LinkedHashMap<>();
-        for (String part : text().split("(?m)^## ")) {
+        for (String part : Document.text().split("(?m)^## ")) {
             int end = part.indexOf('\n');
             String title = part.substring(0, end).replaceAll(":.*", "").trim();
             sections.put(title, words(title, part.substring(end)));
@@ -25,14 +20,6 @@ final class Sentences {
         // What the interface says ahead of its calls are headings, which promise nothing.
         sections.computeIfPresent("Terms", (title, words) -> words.replaceFirst("Ahead of the calls .*$", ""));
         return sections;
-    }
-
-    private static String text() {
-        try {
-            return Files.readString(DOCUMENT);
-        } catch (IOException e) {
-            throw new UncheckedIOException(e);
-        }
     }
 
     /** Without what is not the document's own words: fences, page marks, the signature ahead of a promise. */
